@@ -54,7 +54,7 @@ public final class TenthBean {
     private static final int WORD_MOST = 8;
     private static final int WHOLE_MOST = 3;
 
-    // sorts of LINES
+    // sorts of WORDS: those that begin LINES, and NAMES
     private static final int LEGION_LINE = 0;
     private static final int TEN_LINE = 1;
     private static final int MAN_LINE = 2;
@@ -63,6 +63,7 @@ public final class TenthBean {
     private static final int DREW_LINE = 5;
     private static final int GONE_LINE = 6;
     private static final int AMONG_LINE = 7;
+    private static final int NAME = 8;
 
     private final byte[] tape = new byte[TAPE_ROOM];
     private int taped = 0;
@@ -726,6 +727,10 @@ public final class TenthBean {
         final int[] firstTen = new int[MEN];
         final int[] nerve = new int[MEN];
         final int[] friendsOf = new int[MEN];
+        /** How often he fears a LOT: a veteran twice, a coward not. */
+        final int[] fearTimes = new int[MEN];
+        /** For how many he counts if he runs. */
+        final int[] weight = new int[MEN];
         final Helmet helmet = new Helmet();
         final Earlier earlier = new Earlier();
 
@@ -747,19 +752,10 @@ public final class TenthBean {
                 firstTen[men] = t;
                 nerve[men] = nerveOf;
                 friendsOf[men] = 0;
+                fearTimes[men] = kindOf == VETERAN ? 2 : kindOf == COWARD ? 0 : 1;
+                weight[men] = kindOf == OFFICER ? 2 : 1;
                 men++;
             }
-        }
-
-        int fearTimes(int m) {
-            if (kind[m] == COWARD) {
-                return 0;
-            }
-            return kind[m] == VETERAN ? 2 : 1;
-        }
-
-        int weightOf(int m) {
-            return kind[m] == OFFICER ? 2 : 1;
         }
     }
 
@@ -1024,8 +1020,6 @@ public final class TenthBean {
         private int length;
         int place;
         int sort;
-        /** The sort of LINE that the token begins, NONE for others. */
-        int reserved;
 
         Tokens(byte[] bytes) {
             this.bytes = bytes;
@@ -1044,7 +1038,6 @@ public final class TenthBean {
                 place++;
             }
             length = 0;
-            reserved = NONE;
             if (place >= end) {
                 sort = END;
             } else if (bytes[place] == ';') {
@@ -1054,7 +1047,6 @@ public final class TenthBean {
                 length = standTogether('a', 'z');
                 if (length > 0) {
                     sort = length <= WORD_MOST ? WORD : NO_TOKEN;
-                    reserved = lineSort();
                 } else {
                     length = standTogether('0', '9');
                     sort = length > 0 && length <= WHOLE_MOST ? WHOLE : NO_TOKEN;
@@ -1082,10 +1074,6 @@ public final class TenthBean {
             return true;
         }
 
-        boolean isName() {
-            return sort == WORD && reserved == NONE;
-        }
-
         /** The letters as one number; unlike words have unlike ones. */
         long letters() {
             long all = 0;
@@ -1103,7 +1091,11 @@ public final class TenthBean {
             return all;
         }
 
-        private int lineSort() {
+        /** The sort of LINE that a WORD begins; NAME for the other WORDS, NONE for what is no WORD. */
+        int wordSort() {
+            if (sort != WORD) {
+                return NONE;
+            }
             if (isWord("legion")) {
                 return LEGION_LINE;
             }
@@ -1125,7 +1117,7 @@ public final class TenthBean {
             if (isWord("gone")) {
                 return GONE_LINE;
             }
-            return isWord("among") ? AMONG_LINE : NONE;
+            return isWord("among") ? AMONG_LINE : NAME;
         }
     }
 
@@ -1157,7 +1149,24 @@ public final class TenthBean {
             placeMet = NONE;
             tokens.begin(n);
             for (int lines = 0; lines < TAPE_ROOM; lines++) {
-                if (!readLine()) {
+                int sort = tokens.wordSort();
+                int number = faultOfLine(sort);
+                if (number != 0) {
+                    return fail(number);
+                }
+                tokens.step();
+                boolean sound;
+                switch (sort) {
+                    case LEGION_LINE: sound = readLegion(); break;
+                    case TEN_LINE: sound = readTen(); break;
+                    case MAN_LINE: sound = readMan(); break;
+                    case FRIEND_LINE: sound = readFriend(); break;
+                    case HELMET_LINE: sound = readHelmet(); break;
+                    case DREW_LINE: sound = readDrew(); break;
+                    case GONE_LINE: sound = readGone(); break;
+                    default: sound = readAmong(); break;
+                }
+                if (!sound) {
                     return false;
                 }
                 if (tokens.sort == END) {
@@ -1177,28 +1186,9 @@ public final class TenthBean {
             return false;
         }
 
-        private boolean readLine() {
-            int sort = tokens.reserved;
-            int number = faultOfLine(sort);
-            if (number != 0) {
-                return fail(number);
-            }
-            tokens.step();
-            switch (sort) {
-                case LEGION_LINE: return readLegion();
-                case TEN_LINE: return readTen();
-                case MAN_LINE: return readMan();
-                case FRIEND_LINE: return readFriend();
-                case HELMET_LINE: return readHelmet();
-                case DREW_LINE: return readDrew();
-                case GONE_LINE: return readGone();
-                default: return readAmong();
-            }
-        }
-
         /** The FAULT at a LINE's first WORD, 0 without one. */
         private int faultOfLine(int sort) {
-            if (sort == NONE) {
+            if (sort == NONE || sort == NAME) {
                 return FORM;
             }
             if (sort == LEGION_LINE) {
@@ -1401,7 +1391,7 @@ public final class TenthBean {
         }
 
         private boolean isFreshName() {
-            if (!tokens.isName()) {
+            if (tokens.wordSort() != NAME) {
                 return fail(FORM);
             }
             long name = tokens.letters();
@@ -1413,7 +1403,7 @@ public final class TenthBean {
 
         /** The number of the one told by that NAME; the token stays, so that a FAULT is at it. */
         private int findTold(long[] names, int count) {
-            if (!tokens.isName()) {
+            if (tokens.wordSort() != NAME) {
                 fail(FORM);
                 return NONE;
             }
@@ -1512,7 +1502,7 @@ public final class TenthBean {
         }
 
         int nerveOf(int m, int fear) {
-            return told.nerve[m] + fear * told.fearTimes(m) * feared[m];
+            return told.nerve[m] + fear * told.fearTimes[m] * feared[m];
         }
 
         int angerOfAll() {
@@ -1540,7 +1530,7 @@ public final class TenthBean {
             int more = start;
             for (int pass = 0; pass <= MEN && (pass == 0 || more != 0); pass++) {
                 for (int m = 0; m < MEN; m++) {
-                    weight += has(more, m) ? told.weightOf(m) : 0;
+                    weight += has(more, m) ? told.weight[m] : 0;
                 }
                 running |= more;
                 more = 0;
@@ -1747,8 +1737,11 @@ public final class TenthBean {
 
         /** All ways of LOTS of the chosen tens from number t on; after[t] is how it is ahead of them. */
         private void drawFrom(int t, int tens, int chosen, int start) {
-            if (t < 0 || t >= tens || t >= TENS) {
-                countWay(after[tens], start);
+            if (t < 0 || t > TENS) {
+                return;
+            }
+            if (t == tens || t == TENS) {
+                countWay(after[t], start);
                 return;
             }
             Now then = after[t + 1];

@@ -104,6 +104,12 @@ public final class LotsTest {
         TenthBean bad = Check.legion(twins.replace("holds 1", "holds 8"));
         CHECK.told("none is likelier than {}", bad, bad.order(0), 0);
         CHECK.odds("never", bad.orderOdds(0, false), bad.orderOdds(0, true), 0, 1);
+        // the first two together (one of each stands) are as good as the third alone (two veterans stand)
+        TenthBean third = Check.legion("legion holds 2 lots 6 fear 4 mutiny 30;ten x;ten y;ten z;man a plain in x nerve 0;"
+                + "man b plain in x nerve 0;man c plain in y nerve 0;man d plain in y nerve 0;man e veteran in z nerve 0;"
+                + "man f veteran in z nerve 0;man g veteran in z nerve 0");
+        CHECK.told("fewest ahead of least bits", third, third.order(0), 4);
+        CHECK.odds("surely", third.orderOdds(0, false), third.orderOdds(0, true), 1, 1);
         TenthBean full = Check.legion(Check.FULL);
         CHECK.told("none needed", full, full.order(0), 0);
         CHECK.told("order(17)", full, full.order(17), 1);

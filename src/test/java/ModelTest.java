@@ -11,6 +11,7 @@ import java.util.Random;
 public final class ModelTest {
     private static final int RUNS = 400;
     private static final int CALLS = 512;
+    private static final int TEXTS = 15;
     private static final String[] KINDS = {"plain", "veteran", "coward", "officer"};
 
     private final Random random;
@@ -35,6 +36,7 @@ public final class ModelTest {
         int runs = args.length > 1 ? Integer.parseInt(args[1]) : RUNS;
         for (long seed = from; seed < from + runs; seed++) {
             new ModelTest(seed).run();
+            new ModelTest(~seed).spoiledTexts();
         }
         System.out.println(runs + " runs of chance calls as due");
     }
@@ -46,11 +48,20 @@ public final class ModelTest {
         if (random.nextInt(10) == 0) {
             ask(10);
         }
-        while (made < CALLS - 60) {
+        while (made < CALLS - 80) {
             String text = text();
             boolean broken = random.nextInt(3) == 0;
             tell(broken ? spoil(text) : text);
             ask(broken ? 6 : 30 + random.nextInt(300));
+        }
+    }
+
+    /** FAULTS of all sorts. */
+    private void spoiledTexts() throws Exception {
+        fast = new TenthBean();
+        slow = new SlowLegion();
+        for (int i = 0; i < TEXTS; i++) {
+            tell(spoil(text()));
         }
     }
 
@@ -135,7 +146,13 @@ public final class ModelTest {
             int from = random.nextInt(tokens.size());
             switch (random.nextInt(5)) {
                 case 0 -> tokens.remove(at);
-                case 1 -> tokens.add(at, tokens.get(from));
+                case 1 -> {
+                    if (sort(tokens.get(at)) == sort(tokens.get(from))) {
+                        tokens.set(at, tokens.get(from));
+                    } else {
+                        tokens.add(at, tokens.get(from));
+                    }
+                }
                 case 2 -> tokens.set(at, tokens.get(from));
                 case 3 -> tokens.set(at, "" + random.nextInt(40));
                 default -> {
@@ -146,6 +163,10 @@ public final class ModelTest {
             }
         }
         return String.join(" ", tokens);
+    }
+
+    private static int sort(String token) {
+        return Character.isLetter(token.charAt(0)) ? token.length() > 1 ? 0 : 1 : Character.isDigit(token.charAt(0)) ? 2 : 3;
     }
 
     private void tell(String text) throws Exception {

@@ -130,6 +130,18 @@ public final class RunTest {
         CHECK.told("nerve 1 each", y, y.fearFor(0), 1);
         CHECK.told("more than the one who starts", y, y.fearFor(1), 2);
         CHECK.told("two start: one stands", y, y.fearFor(3), -2);
+        String officers = "legion holds 1 lots 6 fear 0 mutiny 9;ten t;ten u;man a plain in t nerve 0;man b plain in t nerve 0;"
+                + "man c officer in u nerve 0;man d officer in u nerve 0;man e officer in u nerve 0;man f officer in u nerve 0;"
+                + "man g plain in u nerve 0";
+        TenthBean w = Check.legion(officers);
+        CHECK.due("a goes, b fears", w.lot(0), 1);
+        w.braces(6, true);
+        CHECK.told("g stands", w, w.fearFor(0), 0);
+        w.braces(6, false);
+        CHECK.told("nine run: no more than nine are feared", w, w.fearFor(0), -2);
+        TenthBean v = Check.legion(officers.replace(";man g plain in u nerve 0", ""));
+        v.lot(0);
+        CHECK.told("eight run: nine", v, v.fearFor(0), 9);
         TenthBean z = Check.legion("legion holds 1 lots 6 fear 0 mutiny 9;ten t;man a coward in t nerve 0;man b coward in t nerve 0");
         z.lot(0);
         CHECK.told("a coward fears not", z, z.fearFor(0), -2);
