@@ -46,6 +46,14 @@ final class Check {
         due(call + " lower", lower, wantLower);
     }
 
+    int asked() {
+        return asked;
+    }
+
+    int wrong() {
+        return wrong;
+    }
+
     void end() {
         System.out.println(asked - wrong + " answers as due, " + wrong + " not");
         if (wrong != 0 || asked == 0) {
