@@ -323,6 +323,9 @@ final class EdgesOfOdds {
         for (int i : Edges.outside(69)) {
             check.refused("goneAt(" + i + ")", x, x.goneAt(i), -1, 1);
         }
+        TenthBean one = earlier(8, ";gone 1");
+        check.told("the last of eight", one, one.goneAt(7), 128);
+        check.refused("no ninth", one, one.goneAt(8), -1, 1);
         TenthBean noSet = earlier(2, ";gone 2;among a b 1");
         check.refused("none fits", noSet, noSet.goneAt(0), -1, 1);
         TenthBean none = new TenthBean();
